@@ -117,7 +117,9 @@ public final class PlansTest {
         due.plain(x, "worth without a plan", () -> x.worth(1), -1000);
         x.tell(0, 13);
         x.bind(0, 1, 1);
-        due.is("its tied one may go without it", x.worth(0), -1);
+        x.bind(1, 2, 2);
+        due.is("its tied one may go without it", x.worth(0), 0);
+        x.bind(1, 2, 0);
         x.bind(0, 1, 0);
         due.refused(x, "worth(3)", () -> x.worth(3), BAD);
         due.refused(x, "worth(-1)", () -> x.worth(-1), BAD);
