@@ -12,6 +12,7 @@ public final class BankTest {
         fed();
         banks();
         allOrNothing();
+        afterOtherCalls();
         faults();
         room();
         ofParties();
@@ -141,6 +142,23 @@ public final class BankTest {
         due.is("tape empty", x.status(10), 0);
         due.is("tie stands", x.partyOf(0, 6), 2);
         due.is("no shun", x.partyOf(0, 7), 0);
+    }
+
+    private static void afterOtherCalls() {
+        RowsOnlyPrimes x = new RowsOnlyPrimes();
+        x.party(0, 0, 1, 0);
+        x.party(5, 0, 1, 0);
+        x.tell(0, 20);
+        x.cross(2);
+        x.seed(9);
+        due.is("a bank that ties those of other calls", Due.read(x, "tie 0 1"), 1);
+        due.is("seats stand", x.status(1), 20);
+        due.is("the seed stands", x.status(11), 9);
+        due.is("tied", x.partyOf(0, 6), 2);
+        RowsOnlyPrimes y = Due.bank("party 0 0 5 0;party 0 0 6 0");
+        y.cross(1);
+        due.is("a bank after a crossing", Due.read(y, "cost 1"), 1);
+        due.is("what was done stands", y.status(6) * 100 + y.status(8) * 10 + y.status(9), 2011);
     }
 
     private static void faults() {

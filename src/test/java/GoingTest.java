@@ -178,6 +178,15 @@ public final class GoingTest {
         x.tell(0, 5);
         due.is("stranded() in 5 seats", x.stranded(), 7);
         due.is("many() in 5 seats", x.many(), 0);
+        RowsOnlyPrimes all = Due.bank(THREE + ";seats 17;tie 0 1;tie 1 2");
+        due.is("everybody together or nobody", all.many() * 10 + all.stranded(), 10);
+        due.is("cheapest of everybody", all.cheapest(1), 7);
+        due.is("together of everybody", all.together(0, 2), 1);
+        due.is("fullest of everybody", all.fullest(0), 7);
+        RowsOnlyPrimes first = Due.bank("party 0 0 2 0;party 0 0 40 0");
+        due.is("the first alone", first.many() * 10 + first.stranded(), 12);
+        due.is("cheapest of the first", first.cheapest(0), 1);
+        due.is("fullest of the first", first.fullest(0), 1);
         RowsOnlyPrimes y = Due.bank("party 0 0 2 0;party 0 0 3 0;party 0 0 5 0;tie 0 1");
         due.is("tied ones don't go alone", y.alone(), 4);
         due.is("together(0, 1)", y.together(0, 1), 2);

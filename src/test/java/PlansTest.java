@@ -73,6 +73,9 @@ public final class PlansTest {
     }
 
     private static void fewestThenLeast() {
+        due.is("time() as the first call", Due.bank(THREE).time(), 40);
+        due.is("worth(2) as the first call", Due.bank(THREE + ";seats 17").worth(2), 1);
+        due.is("plan(0) as the first call", Due.bank(THREE).plan(0), 1);
         // 3 and 8: 11 in one crossing, 1 hermit more than none; in two: 3, and 8 with 3
         RowsOnlyPrimes x = Due.bank("party 0 0 3 0;party 0 0 5 0;party 0 0 7 0");
         // together 15; pairs: 8 with 3, 10 with 1, 12 with 1; the single ones without

@@ -147,7 +147,10 @@ public final class TruthTest {
         x.cross(3);
         x.image();
         x.comesBack(0);
+        x.cross(1);
+        state(x, 80, 4, 3, 7);
         due.is("the newer image", x.back() * 10 + x.status(9), 17);
+        state(x, 40, 2, 2, 7);
     }
 
     private static void imagedShelves() {
@@ -157,12 +160,22 @@ public final class TruthTest {
         x.image();
         x.party(0, 0, 1, 0);
         x.show(2, 3);
+        x.show(4, 3);
+        x.show(7, 3);
         x.show(1, 1);
         x.set(0, 0, 6);
         x.give(1, 1, 33);
         x.row(3, 1, 0);
-        due.is("status(17)", x.status(17), 4);
+        due.is("status(17)", x.status(17), 6);
         x.back();
+        due.is("more who are gone", x.holds(4) + x.holds(7), -2);
+        x.show(0, 2);
+        x.image();
+        x.party(0, 0, 1, 0);
+        x.show(0, 3);
+        x.back();
+        due.is("one on the first shelf that is gone", x.holds(0), -1);
+        Due.fill(x, 0, 2, 6);
         due.is("a row stays as it is", x.element(0, 0), 6);
         due.is("a new row stays", x.holds(3), 1);
         due.is("one of the same number", x.holds(1), 11);
