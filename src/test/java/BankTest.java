@@ -168,14 +168,16 @@ public final class BankTest {
             "rule 4", "hermits 10", "cost 10", "tie 0 0", "tie 0 2", "tie 2 0", "tie 0", "tie 0 ;", "shun 1 1", "free 1 1",
             "shun 0 2", "free 2 1", "party 6 0 1 0", "party 0 10 1 0", "party 0 0 0 0", "party 0 0 41 0", "party 0 0 1 100",
             "party 0 0 1 000", "party 0 0 1 0 0", "law 1 ,", "tie 01 00", "party 0 0 1 0;tie 2 0", "tie 1 1 1", "partytie 0 1",
-            "cost 1;cost 11;cost 3#", "free 0 1;free", "tie\t0 1", "party 0 0 1 99;party 0 0 1 999"};
+            "cost 1;cost 11;cost 3#", "free 0 1;free", "tie\t0 1", "lie 0 1", "shin 0 1", "tree 0 1", "sexts 3", "liw 1", "rust 1",
+            "kermits 1", "most 1", "marty 0 0 1 0", "party 0 0 1 99;party 0 0 1 999"};
         int[] answers = {0, 3, 0, 5, 7, 11, 12, 8, 9,
             8, 8, 8, 0, 7, 5, 6, 0,
             0, 6, 6, 1, 6, 0, 5, 6, 6, 4,
             5, 8, 5, 6, 6, 4, 5, 6, 7, 7,
             7, 5, 6, 8, 10, 10, 12,
             12, 14, 6, 1, 2, 6, 0,
-            12, 13, 3, 27};
+            12, 13, 3, 0, 0, 0, 0, 0, 0,
+            0, 0, 0, 27};
         // these are no faults: so many statements
         java.util.Set<String> banks = java.util.Set.of("seats 05", "tie 01 00", "party 0 0 1 0;tie 2 0");
         for (int i = 0; i < texts.length; i++) {

@@ -253,6 +253,13 @@ public final class GoingTest {
         due.plain(x, "not torn()", x::torn, 0);
         x.bind(2, 3, 2);
         due.plain(x, "torn()", x::torn, 1);
+        RowsOnlyPrimes down = Due.bank("party 0 0 1 0;".repeat(7) + "party 0 0 1 0");
+        for (int p = 7; p > 0; p--) {
+            due.is("knot(7) so far", down.knot(7), 256 - (1 << p));
+            down.bind(p, p - 1, 1);
+        }
+        due.is("knot(7) of all", down.knot(7), 255);
+        due.is("knot(0) of all", down.knot(0), 255);
         due.refused(x, "knot(8)", () -> x.knot(8), BAD);
         due.refused(x, "knot(-1)", () -> x.knot(-1), BAD);
     }

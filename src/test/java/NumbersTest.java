@@ -49,6 +49,10 @@ public final class NumbersTest {
         RowsOnlyPrimes x = boat(13, 0);
         due.plain(x, "ways(1)", () -> x.ways(1), 0);
         due.plain(x, "ways(60)", () -> x.ways(60), 893);
+        x.left(60);
+        due.is("ways(60) behind a left", x.ways(60), 893);
+        due.is("ways(60) again", x.ways(60), 893);
+        due.is("left(60) behind it", x.left(60), 0);
         due.refused(x, "ways(-1)", () -> x.ways(-1), BAD);
         due.refused(x, "ways(61)", () -> x.ways(61), BAD);
     }

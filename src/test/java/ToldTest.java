@@ -71,6 +71,9 @@ public final class ToldTest {
         Due.fill(y, 5, 3, 7);
         due.is("its tied one is over", y.crossed(5, 1, 0), 2);
         due.is("it is the first", y.crossed(5, 1, 1), 1);
+        RowsOnlyPrimes most = Due.bank("party 0 0 40 0;party 0 0 40 0;party 0 0 19 0;seats 99;law 2;hermits 0");
+        crossed(most, 1, 7, 99);
+        crossed(most, 0, -1, 100);
         RowsOnlyPrimes none = new RowsOnlyPrimes();
         crossed(none, 0, -1, 2);
         crossed(none, 1, -1);
