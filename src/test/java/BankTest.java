@@ -199,10 +199,9 @@ public final class BankTest {
         RowsOnlyPrimes y = new RowsOnlyPrimes();
         due.is("nine", Due.read(y, "party 0 0 1 0;".repeat(8) + "party 0 0 1 0"), -2000 - 8 * 14);
         due.is("nobody came", y.status(0), 0);
-        Due.feed(y, ";".repeat(250));
-        due.is("a full tape", y.bank(), -2000);
-        due.is("250 bytes", Due.read(y, "law 1;".repeat(41) + "cos "), -2000 - 246);
-        due.is("250 bytes too short", Due.read(y, "law 1;".repeat(41) + "cost"), -2250);
+        due.is("a full tape", Due.read(new RowsOnlyPrimes(), ";".repeat(250)), -2000);
+        due.is("250 bytes", Due.read(new RowsOnlyPrimes(), "law 1;".repeat(41) + "cos "), -2000 - 246);
+        due.is("250 bytes too short", Due.read(new RowsOnlyPrimes(), "law 1;".repeat(41) + "cost"), -2250);
     }
 
     private static void ofParties() {

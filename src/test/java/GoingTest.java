@@ -49,16 +49,14 @@ public final class GoingTest {
         java.util.Set<String> primes = java.util.Set.of(byLaw[0].split(" "));
         java.util.Set<String> squares = java.util.Set.of(byLaw[3].split(" "));
         int[] counts = {25, 49, 50, 9};
-        x.tell(0, 99);
         for (int law = 0; law < 4; law++) {
-            x.tell(1, law);
+            RowsOnlyPrimes by = Due.bank("seats 99;law " + law);
             for (int n = 0; n < 1000; n += n < 102 ? 1 : 41) {
                 boolean[] goes = {primes.contains("" + n), n % 2 == 0, n % 2 == 1, squares.contains("" + n)};
-                due.is("law " + law + " goes(" + n + ")", x.goes(n), goes[law] && n >= 1 && n <= 99 ? 1 : 0);
+                due.is("law " + law + " goes(" + n + ")", by.goes(n), goes[law] && n >= 1 && n <= 99 ? 1 : 0);
             }
-            due.is("law " + law + " numbers()", x.numbers(), counts[law]);
+            due.is("law " + law + " numbers()", by.numbers(), counts[law]);
         }
-        x.tell(1, 0);
         x.tell(0, 13);
         due.is("goes(13) of 13 seats", x.goes(13), 1);
         x.tell(0, 12);
@@ -114,13 +112,14 @@ public final class GoingTest {
     private static void check(RowsOnlyPrimes x, int[] hire, int[] lacks) {
         int seats = x.status(1);
         int cost = x.status(5);
-        for (int group = 0; group < hire.length; group++) {
-            int g = group;
-            due.plain(x, "hire(" + g + ")", () -> x.hire(g), hire[g]);
-            due.plain(x, "fare(" + g + ")", () -> x.fare(g), hire[g] < 0 ? -1 : hire[g] * cost);
-            due.plain(x, "spare(" + g + ")", () -> x.spare(g), hire[g] < 0 ? -1 : seats - x.heads(g) - hire[g]);
-            due.plain(x, "lacks(" + g + ")", () -> x.lacks(g), lacks[g]);
+        int refused = x.status(12) + x.status(15);
+        for (int g = 0; g < hire.length; g++) {
+            due.is("hire(" + g + ")", x.hire(g), hire[g]);
+            due.is("fare(" + g + ")", x.fare(g), hire[g] < 0 ? -1 : hire[g] * cost);
+            due.is("spare(" + g + ")", x.spare(g), hire[g] < 0 ? -1 : seats - x.heads(g) - hire[g]);
+            due.is("lacks(" + g + ")", x.lacks(g), lacks[g]);
         }
+        due.is("refused", x.status(12) + x.status(15), refused);
     }
 
     private static void headsOfNobody() {

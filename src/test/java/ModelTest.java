@@ -7,7 +7,7 @@ import java.util.List;
 /** All promises: runs of drawn calls, each answer beside the one of the Model. */
 public final class ModelTest {
     private static final Due due = new Due();
-    private static final int OBJECTS = Integer.getInteger("objects", 260);
+    private static final int OBJECTS = Integer.getInteger("objects", 500);
     private static long chance = Long.getLong("start", 20261118L);
 
     public static void main(String[] args) throws ReflectiveOperationException {
@@ -32,8 +32,9 @@ public final class ModelTest {
         for (int i = 0; i < 20000; i++) {
             RowsOnlyPrimes x = new RowsOnlyPrimes();
             Model m = new Model();
-            for (int bank = 0; bank < 3; bank++) {
+            for (int bank = 0, fed = 0; bank < 3 && fed < 150; bank++) {
                 String text = text();
+                fed += text.length();
                 for (int k = 0; k < text.length(); k++) {
                     x.feed(text.charAt(k));
                     m.feed(text.charAt(k));
@@ -196,7 +197,7 @@ public final class ModelTest {
             }
         }
         StringBuilder log = new StringBuilder();
-        for (int call = 0; call < 420; call++) {
+        for (int call = 0; call < 220; call++) {
             Method method = methods.get(draw(methods.size()));
             if (rare(method.getName(), m, most)) {
                 continue;
@@ -304,10 +305,10 @@ public final class ModelTest {
         }
         for (int p = 0; p < 8; p++) {
             due.is("holds(" + p + ")", x.holds(p), m.holds(p));
-            for (int what = 0; what < 8; what++) {
+            for (int what = 0; what < 8 && p < m.s.parties.size(); what++) {
                 due.is("partyOf(" + p + ", " + what + ")", x.partyOf(p, what), m.partyOf(p, what));
             }
-            for (int place = 0; place < 41; place++) {
+            for (int place = 0; place < 41 && m.shelves[p] instanceof long[]; place++) {
                 due.is("element(" + p + ", " + place + ")", x.element(p, place), m.element(p, place));
             }
         }

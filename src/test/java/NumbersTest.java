@@ -63,11 +63,10 @@ public final class NumbersTest {
             {7, 7, 3}, {8, 8, 0}, {98, 98, 2}, {99, 99, 3}, {4, 3, 1}, {3, 4, 0}, {99, 98, 1}, {98, 99, 0}, {2, 3, 0},
             {3, 2, 1}, {99, 0, 1}, {0, 99, 0}, {2, 1, 1}};
         for (int[] p : purses) {
-            x.give(0, 1, p[0]);
-            x.give(1, 1, p[1]);
+            RowsOnlyPrimes two = Due.bank("party 0 0 1 " + p[0] + ";party 0 0 1 " + p[1]);
             String call = "bids of " + p[0] + " and " + p[1];
-            due.plain(x, call, () -> x.bids(0, 1, 1), p[2]);
-            due.plain(x, call, () -> x.bids(0, 1, 0), p[2] > 0 ? 1 : 0);
+            due.plain(two, call, () -> two.bids(0, 1, 1), p[2]);
+            due.plain(two, call, () -> two.bids(0, 1, 0), p[2] > 0 ? 1 : 0);
         }
         x.give(0, 1, 4);
         x.give(1, 1, 3);

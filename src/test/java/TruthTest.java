@@ -48,7 +48,7 @@ public final class TruthTest {
         state(x, 100, 14, 3, 3);
     }
 
-    // told by hand: the upper 16 bits of the seeds behind 1 are 16838, 38526, 10113, 50283, 31051, 5627, 23010, 7419
+    // told by hand: the upper 16 bits of the seeds behind 1 are 16838, 38526, 10113, 50283, 63819, 38395, 55778, 40187
     private static void draws() {
         RowsOnlyPrimes x = Due.bank("party 0 0 2 0;party 0 0 3 0");
         due.plain(x, "days(1)", () -> x.days(1), 0);
@@ -56,15 +56,15 @@ public final class TruthTest {
         state(x, 60, 0, 0, 0);
         due.is("three draws", x.status(11), seedAfter(1, 3));
         due.plain(x, "days(1)", () -> x.days(1), 1);
-        // 50283 and 31051: both come, 5
+        // 50283 and 63819: both come, 5
         state(x, 140, 0, 1, 3);
         due.is("five draws", x.status(11), seedAfter(1, 5));
         due.plain(x, "days(1)", () -> x.days(1), 0);
-        // nobody is there; 5627 modulo 2 is 1: it comes back
+        // nobody is there; 38395 modulo 2 is 1: it comes back
         state(x, 220, 0, 1, 1);
         due.is("six draws", x.status(11), seedAfter(1, 6));
         due.plain(x, "days(1)", () -> x.days(1), 0);
-        // 23010: it doesn't come; 7419 modulo 2 is 1: it isn't over
+        // 55778: it doesn't come; 40187 modulo 2 is 1: it isn't over
         state(x, 280, 0, 1, 1);
         due.is("eight draws", x.status(11), seedAfter(1, 8));
         RowsOnlyPrimes y = Due.bank("party 0 0 2 0;party 0 0 3 0");
