@@ -271,6 +271,7 @@ final class BankEdges {
         Edges.refusedFor(8, "NOTHING, KIND", RICH, v -> x -> x.says(4, v), NOTHING, 0, 5);
         Edges.answers(8, "least PURSE", Edges.after(shown, x -> x.give(0, 1, 0)), x -> x.says(0, 0), 0);
         Edges.answers(8, "greatest PURSE", Edges.after(shown, x -> x.give(0, 1, 99)), x -> x.says(0, 0), 99);
+        Edges.answers(8, "one that came by a call", Edges.after(EMPTY, x -> x.party(4, 2, 5, 9), x -> x.show(0, 0)), x -> x.says(0, 2), 6);
         Edges.answers(8, "HEADS by another SIZE", Edges.after(shown, x -> x.give(1, 0, 10)), x -> x.says(1, 1), 13);
         Edges.answers(8, "HEADS by another RULE", Edges.after(shown, x -> x.tell(2, 0)), x -> x.says(1, 1), 5);
         Edges.answers(8, "HEADS of 0", Edges.after(shown, x -> x.tell(2, 0), x -> Due.read(x, "party 2 0 5 0"), x -> x.show(6, 6)),

@@ -219,6 +219,7 @@ final class GoingEdges {
         Edges.answers(40, "the most HIRE, the most COST", Edges.bank(nine + 9), x -> x.fare(1), 81);
         Edges.answers(40, "the most HIRE, no COST", Edges.bank(nine + 0), x -> x.fare(1), 0);
         Edges.answers(40, "no HIRE, the most COST", Edges.bank("party 0 0 13 0;cost 9"), x -> x.fare(1), 0);
+        Edges.answers(40, "another COST", Edges.after(Edges.bank("party 0 0 12 0"), x -> x.tell(4, 9)), x -> x.fare(1), 9);
         Edges.answers(40, "NONE, no COST", Edges.bank("party 0 0 14 0;cost 0"), x -> x.fare(1), -1);
         badGroups(40, call);
     }

@@ -76,6 +76,9 @@ final class PlansEdges {
         // pairs of 3, 5, 7 are 8, 10 and 12: three hermits, one, one
         planned("of the fewest with least hermits, the first by rows", Edges.bank("party 0 0 3 0;party 0 0 5 0;party 0 0 7 0"), 1, 1, 6);
         planned("of those with least hermits alone", Edges.bank("party 0 0 7 0;party 0 0 3 0;party 0 0 5 0;shun 1 2"), 1, 2, 5);
+        // 1, 5 and 9, or 7, 5 and 3
+        planned("who has gone goes no second time", Edges.bank("party 0 0 1 0;party 0 0 6 0;party 0 0 5 0;party 0 0 3 0;law 2;seats 10;hermits 0"),
+            0, 1, 4, 10);
         String pairs = ";law 1;seats 2;hermits 1";
         planned("all alike in pairs", Edges.bank(Edges.crowd(4) + pairs), 0, 3, 12);
         planned("all alike in pairs and one alone", Edges.bank(Edges.crowd(5) + pairs), 1, 1, 6, 24);
