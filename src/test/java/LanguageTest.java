@@ -1,14 +1,18 @@
+import com.sun.source.tree.ArrayTypeTree;
 import com.sun.source.tree.AssertTree;
+import com.sun.source.tree.BinaryTree;
+import com.sun.source.tree.BlockTree;
 import com.sun.source.tree.ClassTree;
 import com.sun.source.tree.CompilationUnitTree;
 import com.sun.source.tree.LambdaExpressionTree;
+import com.sun.source.tree.LiteralTree;
 import com.sun.source.tree.MemberReferenceTree;
 import com.sun.source.tree.MethodInvocationTree;
 import com.sun.source.tree.MethodTree;
-import com.sun.source.tree.NewArrayTree;
 import com.sun.source.tree.NewClassTree;
 import com.sun.source.tree.SynchronizedTree;
 import com.sun.source.tree.ThrowTree;
+import com.sun.source.tree.Tree;
 import com.sun.source.tree.TryTree;
 import com.sun.source.tree.VariableTree;
 import com.sun.source.util.JavacTask;
@@ -52,7 +56,7 @@ public final class LanguageTest {
         private final CompilationUnitTree unit;
         private final Set<String> faceNames = new HashSet<>();
         private final Map<String, Set<String>> calls = new HashMap<>();
-        private final Set<String> ownNames = new HashSet<>();
+        private final Set<String> privateNames = new HashSet<>();
         private String method = "";
         private int classes;
 
@@ -73,8 +77,12 @@ public final class LanguageTest {
         public Void visitClass(ClassTree it, Void v) {
             classes++;
             boolean face = it.getSimpleName().contentEquals(FACE);
-            due.is("rule 1, 2: " + it.getSimpleName(), it.getModifiers().getFlags().containsAll(
-                face ? Set.of(Modifier.PUBLIC, Modifier.FINAL) : Set.of(Modifier.PRIVATE, Modifier.STATIC)) ? 0 : 1, 0);
+            Set<Modifier> flags = it.getModifiers().getFlags();
+            boolean hidden = !flags.contains(Modifier.PUBLIC) && !flags.contains(Modifier.PROTECTED);
+            boolean free = flags.contains(Modifier.STATIC) || it.getKind() != Tree.Kind.CLASS;
+            due.is("rule 1, 2: " + it.getSimpleName(), (face ? flags.containsAll(Set.of(Modifier.PUBLIC, Modifier.FINAL))
+                : hidden && free) ? 0 : 1, 0);
+            due.is("rule 2: a class inside a method: " + it.getSimpleName(), method.isEmpty() ? 0 : 1, 0);
             long fields = it.getMembers().stream().filter(m -> m instanceof VariableTree f
                 && !f.getModifiers().getFlags().contains(Modifier.STATIC)).count();
             due.is("rule 11: fields of " + it.getSimpleName(), fields <= MOST_FIELDS ? 0 : fields, 0);
@@ -82,7 +90,7 @@ public final class LanguageTest {
             return super.visitClass(it, v);
         }
 
-        private void member(ClassTree type, boolean face, com.sun.source.tree.Tree m) {
+        private void member(ClassTree type, boolean face, Tree m) {
             if (m instanceof VariableTree f && f.getModifiers().getFlags().contains(Modifier.STATIC)) {
                 due.is("rule 5: " + f.getName(), f.getModifiers().getFlags().contains(Modifier.FINAL) ? 0 : 1, 0);
             }
@@ -106,9 +114,10 @@ public final class LanguageTest {
             ClassTree type = (ClassTree) getCurrentPath().getParentPath().getLeaf();
             method = type.getSimpleName() + "." + it.getName();
             calls.computeIfAbsent(method, k -> new HashSet<>());
-            if (!type.getSimpleName().contentEquals(FACE)) {
-                ownNames.add(it.getName().toString());
+            if (it.getModifiers().getFlags().contains(Modifier.PRIVATE)) {
+                privateNames.add(it.getName().toString());
             }
+            due.is("rule 6: " + method, List.of("equals", "hashCode", "toString").contains(it.getName().toString()) ? 1 : 0, 0);
             due.is("rule 11: parameters of " + method, it.getParameters().size() <= MOST_PARAMETERS ? 0 : 1, 0);
             long lines = it.getBody() == null ? 1 : it.toString().lines().count();
             due.is("rule 11: lines of " + method, lines <= MOST_LINES ? 0 : lines, 0);
@@ -121,21 +130,50 @@ public final class LanguageTest {
         public Void visitMethodInvocation(MethodInvocationTree it, Void v) {
             String called = it.getMethodSelect().toString();
             calls.computeIfAbsent(method, k -> new HashSet<>()).add(called.substring(called.lastIndexOf('.') + 1));
-            due.is("rule 4: " + called, called.endsWith("Exact") ? 1 : 0, 0);
+            due.is("rule 4: " + called, mayCall(called) ? 0 : 1, 0);
             return super.visitMethodInvocation(it, v);
+        }
+
+        private static boolean mayCall(String called) {
+            if (called.startsWith("System.") || called.startsWith("Arrays.")) {
+                return List.of("System.arraycopy", "Arrays.copyOf", "Arrays.copyOfRange", "Arrays.fill").contains(called);
+            }
+            return !called.endsWith("Exact") && !called.startsWith("java.");
         }
 
         @Override
         public Void visitNewClass(NewClassTree it, Void v) {
-            due.is("objects are made with their owner, not by calls: " + it, method.isEmpty()
-                || method.endsWith(".<init>") ? 0 : 1, 0);
+            due.is("rule 2: a class without a name: " + it, it.getClassBody() == null ? 0 : 1, 0);
             return super.visitNewClass(it, v);
         }
 
         @Override
-        public Void visitNewArray(NewArrayTree it, Void v) {
-            due.is("arrays are made with their owner, not by calls: " + it, method.isEmpty() ? 0 : 1, 0);
-            return super.visitNewArray(it, v);
+        public Void visitBlock(BlockTree it, Void v) {
+            due.is("rule 5: a static initialiser block", it.isStatic() ? 1 : 0, 0);
+            return super.visitBlock(it, v);
+        }
+
+        @Override
+        public Void visitBinary(BinaryTree it, Void v) {
+            boolean joined = it.getKind() == Tree.Kind.PLUS && (it.getLeftOperand().getKind() == Tree.Kind.STRING_LITERAL
+                || it.getRightOperand().getKind() == Tree.Kind.STRING_LITERAL);
+            due.is("rule 10: " + it, joined ? 1 : 0, 0);
+            return super.visitBinary(it, v);
+        }
+
+        @Override
+        public Void visitArrayType(ArrayTypeTree it, Void v) {
+            boolean deep = it.getType() instanceof ArrayTypeTree inner && inner.getType() instanceof ArrayTypeTree;
+            due.is("rule 3: " + it, deep ? 1 : 0, 0);
+            return super.visitArrayType(it, v);
+        }
+
+        @Override
+        public Void visitLiteral(LiteralTree it, Void v) {
+            if (it.getValue() instanceof String text) {
+                due.is("rule 4: signs of a constant: " + it, text.chars().allMatch(c -> c >= 1 && c <= 127) ? 0 : 1, 0);
+            }
+            return super.visitLiteral(it, v);
         }
 
         @Override
@@ -175,8 +213,8 @@ public final class LanguageTest {
 
         void judge() {
             due.is("rule 11: classes", classes <= MOST_CLASSES ? 0 : classes, 0);
-            for (String name : ownNames) {
-                due.is("rule 1: a class inside names a method of the face: " + name, faceNames.contains(name) ? 1 : 0, 0);
+            for (String name : privateNames) {
+                due.is("rule 1: a private method bears the name of a public one: " + name, faceNames.contains(name) ? 1 : 0, 0);
             }
             for (String each : calls.keySet()) {
                 int depth = depth(each, new HashSet<>());
